@@ -215,6 +215,20 @@ public final class PromisesTest {
         due("removePath(0)", e.removePath(0), 1);
         due("removePath(0)", e.removePath(0), 0);
         dueError("none is left", () -> e.removePath(0), BAD_INDEX);
+        begin("4 removePath, and new paths behind it");
+        for (int k = 0; k < 14; k++) {
+            ring(k, 0, k + 1, 0);
+            line(k, 1);
+            due("removePath", e.removePath(0), 1);
+            due("a new path", e.addPath(k, 2), 1);
+            due("isClosed", e.isClosed(1), 0);
+            due("nodes", e.nodes(1), 1);
+            due("extend", e.extend(1, k, 3), 2);
+            dueX(0, k);
+            dueX(1, k, k);
+            due("removePath", e.removePath(1), 1);
+            due("removePath", e.removePath(0), 0);
+        }
     }
 
     // ---- nodes: promises 5 to 10
@@ -307,6 +321,9 @@ public final class PromisesTest {
         dueError("node 2", () -> e.setCorner(0, 2), BAD_INDEX);
         dueError("path 1", () -> e.setCorner(1, 0), BAD_INDEX);
         due("the second one counts as a change", e.undo(), 6);
+        due("reverse", e.reverse(0), 2);
+        dueRatio(0, 1, NONE, NONE);
+        due("the handles are kept", e.coordinate(0, 1, 4), -U);
     }
 
     private static void insert() {
@@ -365,6 +382,15 @@ public final class PromisesTest {
         due("insert 1 / 3", e.insert(0, 0, 1, 3), 1);
         dueRatio(0, 0, 999, 1);
         dueRatio(0, 2, 2, 999);
+        begin("9 insert, handles");
+        line(0, 0, 27, 0);
+        e.setHandle(0, 0, true, 9, 9);
+        e.setHandle(0, 1, false, -9, 18);
+        due("insert 2 / 3", e.insert(0, 0, 2, 3), 1);
+        dueNode(0, 0, 0, 0, 0, 0, 6 * U, 6 * U);
+        dueNode(0, 1, 18 * U, 10 * U, -6 * U, 2 * U, 3 * U, -U);
+        dueNode(0, 2, 27 * U, 0, -3 * U, 6 * U, 0, 0);
+        dueRatio(0, 1, 2, 1);
         begin("9 insert, ratios in lowest terms");
         line(0, 0, 12, 0);
         e.setSmooth(0, 0, 999, 998);
@@ -493,20 +519,27 @@ public final class PromisesTest {
         ring(0, 0, 1, 1);
         dueError("the other one is closed", () -> e.join(0, 1), NOT_POSSIBLE);
         dueError("the one is closed", () -> e.join(1, 0), NOT_POSSIBLE);
+        begin("12 join, only one coordinate is the same");
+        line(0, 0, 1, 0);
+        line(1, 1, 1, 0);
+        due("y differs", e.join(0, 1), 4);
+        line(2, 0, 1, 0);
+        due("x differs", e.join(0, 1), 6);
         joinRatios();
         joinFull();
     }
 
     private static void joinRatios() {
-        int[][] cases = {{1, 2, 1, 2, 2, 4, 1}, {1, 2, 2, 4, 2, 4, 1}, {1, 2, 1, 2, 2, 5, 0}, {1, 2, 1, 3, 2, 4, 0}};
+        int[][] cases = {{1, 2, 1, 2, 2, 4, 1}, {1, 2, 2, 4, 2, 4, 1}, {1, 2, 1, 2, 2, 5, 0}, {1, 2, 1, 3, 2, 4, 0},
+            {1, 2, 3, 2, 2, 4, 0}};
         for (int[] c : cases) {
             begin("12 join, ratios " + java.util.Arrays.toString(c));
             line(0, 0, 6, 0);
             line(6, 0, 12, 0);
             e.setSmooth(0, 1, c[0], c[1]);
             e.setSmooth(1, 0, c[2], c[3]);
-            e.setHandle(0, 1, false, -c[4], 0);
-            e.setHandle(1, 0, true, c[5], 0);
+            due("in of the former", e.setHandle(0, 1, false, -c[4], 0), 1);
+            due("out of the latter", e.setHandle(1, 0, true, c[5], 0), 1);
             due("join", e.join(0, 1), 3);
             due("in", e.coordinate(0, 1, 2), -c[4] * U);
             due("out", e.coordinate(0, 1, 4), c[5] * U);
@@ -569,8 +602,15 @@ public final class PromisesTest {
         dueRatio(0, 2, 3, 2);
         dueRatio(0, 1, NONE, NONE);
         line(0, 0, 1, 0, 2, 0, 3, 0);
+        e.setHandle(1, 0, true, 3, 1);
+        e.setSmooth(1, 0, 1, 2);
+        e.setHandle(1, 3, false, 4, 5);
         due("open", e.reverse(1), 4);
         dueX(1, 3, 2, 1, 0);
+        dueNode(1, 0, 3 * U, 0, 0, 0, 4 * U, 5 * U);
+        dueNode(1, 3, 0, 0, 3 * U, U, -3 * U / 2, -U / 2);
+        dueRatio(1, 0, NONE, NONE);
+        dueRatio(1, 3, 2, 1);
         dueError("path 2", () -> e.reverse(2), BAD_INDEX);
         dueError("path -1", () -> e.reverse(-1), BAD_INDEX);
     }
@@ -840,6 +880,11 @@ public final class PromisesTest {
         due("y least", e.find(0, MIN), BAD_VALUE);
         e.moveNode(1, 2, 0, 1);
         due("moved", e.find(2, 4), 102);
+        for (int k = 0; k < 14; k++) {
+            e.extend(1, 50, 50);
+            e.removeNode(1, 3);
+            due("removed", e.find(50, 50), NONE);
+        }
     }
 
     private static void corners() {
@@ -851,6 +896,8 @@ public final class PromisesTest {
         due("one of both is smooth", e.corners(0), 1);
         due("join", e.join(0, 0), 4);
         due("closed", e.corners(0), 2);
+        e.setCorner(0, 0);
+        due("node 0, too", e.corners(0), 3);
         line(0, 0);
         due("one node", e.corners(1), 0);
         line(0, 0, 1, 1);
@@ -927,6 +974,15 @@ public final class PromisesTest {
         dueFault("M1234567890123456789012345678901234567890x", 1);
         dueFault("M0 1000", 3);
         dueFault("M0200 0", 2);
+        dueFault("M-200 -200L-200 -200C-200 -200 -200 -200 -200 -200", NONE);
+        dueFault("M200 200L200 200C200 200 200 200 200 200", NONE);
+        dueFault("M200 200L201 200", 9);
+        dueFault("M200 200L200 -201", 13);
+        dueFault("M0 0C1 1 201 0 1 1", 9);
+        dueFault("M0 0C1 1 0 -201 1 1", 11);
+        type("M1 2L3 4");
+        type("M1 ");
+        due("nothing of an earlier text is left", e.faultPosition(), 3);
     }
 
     private static void faultsOfHandles() {
@@ -1015,6 +1071,16 @@ public final class PromisesTest {
         line(1, 2);
         e.transform(0, 1, 0, 0, 1, 2);
         due("a position", e.print(0), NOT_POSSIBLE);
+        due("removePath", e.removePath(0), 0);
+        for (int k = 0; k < 14; k++) {
+            e.addPath(1, 1);
+            e.extend(0, 1, 0);
+            e.transform(0, 1, 0, 0, 1, 6);
+            e.removeNode(0, 1);
+            e.transform(0, 6, 0, 0, 6, 1);
+            duePrint(0, "M1 1");
+            e.removePath(0);
+        }
         begin("32 print, broken handles");
         line(0, 0, 2, 2, 4, 4);
         e.setHandle(0, 0, false, 1, 0);
