@@ -76,6 +76,9 @@ public final class FaceTest {
     /** No private method bears the name of a public one. */
     private static void namesOfTheirOwn(Class<?> inside) {
         for (Member member : inside.getDeclaredMethods()) {
+            if (!Modifier.isPrivate(member.getModifiers())) {
+                continue;
+            }
             Due.is(inside.getName() + "." + member.getName() + " has a name of its own",
                 METHODS.contains(" " + member.getName() + "(") ? 1 : 0, 0);
         }

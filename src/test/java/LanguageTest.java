@@ -1,7 +1,6 @@
 import java.io.IOException;
 import java.nio.file.Files;
 import java.nio.file.Path;
-import java.util.List;
 import java.util.regex.Matcher;
 import java.util.regex.Pattern;
 
@@ -9,9 +8,11 @@ import java.util.regex.Pattern;
 public final class LanguageTest {
     private static final Path PROGRAM = Path.of("src/main/java/PathEditor.java");
     private static final Pattern REFUSED = Pattern.compile("\\b(throw|throws|try|catch|finally|synchronized|assert|"
-        + "import|package|volatile|transient|native|strictfp|float|double|Exact)\\b|Exact\\(|->|::|@");
-    private static final Pattern LIBRARY = Pattern.compile("\\b(Math|System|Integer|Long|Arrays|String)\\.(\\w+)");
-    private static final List<String> USED = List.of("Math.abs", "Math.min", "Math.max", "System.arraycopy");
+        + "package|volatile|transient|native|strictfp|Thread|Random|nanoTime|currentTimeMillis|getenv|hashCode)\\b"
+        + "|Exact\\(|::");
+    private static final Pattern LIBRARY = Pattern.compile("\\b(Math|System|Integer|Long|Arrays|String|List)\\.(\\w+)");
+    private static final Pattern USED = Pattern.compile("(Math|Integer|Long)\\.\\w+|System\\.arraycopy|List\\.of"
+        + "|Arrays\\.(copyOf|copyOfRange|fill)");
     private static final int LONGEST_METHOD = 60;
 
     private LanguageTest() {
@@ -24,9 +25,8 @@ public final class LanguageTest {
             number++;
             String code = line.replaceAll("^\\s*(//|/\\*\\*|\\*).*", "");
             Due.is("line " + number + " has what is refused: " + line, REFUSED.matcher(code).find() ? 1 : 0, 0);
-            Due.is("line " + number + " is long", line.length() > 120 ? 1 : 0, 0);
             for (Matcher m = LIBRARY.matcher(code); m.find();) {
-                Due.is("line " + number + " uses " + m.group(), USED.contains(m.group()) ? 1 : 0, 1);
+                Due.is("line " + number + " uses " + m.group(), USED.matcher(m.group()).matches() ? 1 : 0, 1);
             }
             if (code.matches("\\s*(public|private) .*\\) \\{")) {
                 start = number;
