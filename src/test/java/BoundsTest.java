@@ -104,6 +104,8 @@ public final class BoundsTest {
         bounds("addPath(0, 0)", "setSmooth(0, 0, 1, #)", 1, 999, 0, 0);
         bounds("addPath(0, 0)", "setSmooth(0, 0, #, 999)", 1, 999, 0, 0);
         bounds("addPath(0, 0); setSmooth(0, 0, 1, 1)", "setSmooth(0, 0, 999, #)", 1, 999, 1, 1);
+        new Script("addPath(0, 0)").due("setCorner(0, 0)", 0).due("setSmooth(0, 0, 1, 1)", 0)
+            .due("setSmooth(0, 0, 1, 2)", 1).due("setCorner(0, 0)", 1).due("setCorner(0, 0)", 0);
         new Script("addPath(0, 0); setSmooth(0, 0, 999, 1)").dueNode(0, 0, 0, 0, 0, 0, 0, 0, 999, 1);
         new Script("addPath(0, 0); setSmooth(0, 0, 1, 999)").dueNode(0, 0, 0, 0, 0, 0, 0, 0, 1, 999);
         new Script("addPath(0, 0); setSmooth(0, 0, 999, 999)").dueNode(0, 0, 0, 0, 0, 0, 0, 0, 1, 1);

@@ -30,6 +30,7 @@ public final class LimitsTest {
         insertedInEverySegment();
         insertTwoNodesClosed();
         pointsBeyondTheRange();
+        boxes();
         greatestArea();
         Due.end();
     }
@@ -259,6 +260,30 @@ public final class LimitsTest {
             .due("point(0, 0, 0, 1, false)", 200 * U).due("point(0, 0, 6, 6, true)", -200 * U).due("box(0, 0)", 200 * U)
             .due("box(0, 1)", 400 * U).due("box(0, 2)", -400 * U).due("box(0, 3)", -200 * U)
             .due("point(0, 0, 2, 5, false)", 344 * U).due("insert(0, 0, 1, 2)", OUT_OF_RANGE);
+    }
+
+    /** Any of the four control points can be the outermost one, on each side. */
+    private static void boxes() {
+        int[] handles = {-20, -10, -5, 0, 5, 10, 20};
+        for (int out : handles) {
+            for (int in : handles) {
+                long least = Math.min(0, Math.min(out, 10 + in)) * U;
+                long most = Math.max(10, Math.max(out, 10 + in)) * U;
+                String scene = Scenes.open(0, 0, 3, 10, 3) + "; setHandle(0, 0, true, " + out
+                    + ", 0); setHandle(0, 1, false, " + in + ", 0)";
+                dueBox(scene, least, most, 3 * U, 3 * U);
+                dueBox(scene + "; reverse(0)", least, most, 3 * U, 3 * U);
+                dueBox(scene + "; join(0, 0)", least, most, 3 * U, 3 * U);
+                dueBox(scene + "; transform(0, -1, 0, 0, 1, 1)", -most, -least, 3 * U, 3 * U);
+                dueBox(scene + "; transform(0, 0, 1, 1, 0, 1)", 3 * U, 3 * U, least, most);
+                dueBox(scene + "; transform(0, 0, 1, -1, 0, 1)", 3 * U, 3 * U, -most, -least);
+            }
+        }
+    }
+
+    private static void dueBox(String scene, long leastX, long mostX, long leastY, long mostY) {
+        new Script(scene).due("box(0, 0)", leastX).due("box(0, 1)", mostX).due("box(0, 2)", leastY)
+            .due("box(0, 3)", mostY);
     }
 
     private static void greatestArea() {
