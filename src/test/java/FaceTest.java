@@ -26,8 +26,13 @@ public final class FaceTest {
     public static void main(String[] args) throws IllegalAccessException {
         constants();
         signatures();
-        for (Class<?> inside : PathEditor.class.getDeclaredClasses()) {
+        sizes(PathEditor.class);
+        namesOfTheirOwn(PathEditor.class);
+        Class<?>[] insides = PathEditor.class.getDeclaredClasses();
+        Due.is("at most twelve classes", insides.length < 12 ? 1 : 0, 1);
+        for (Class<?> inside : insides) {
             Due.is(inside.getName() + " is static", Modifier.isStatic(inside.getModifiers()) ? 1 : 0, 1);
+            sizes(inside);
             namesOfTheirOwn(inside);
         }
         Due.end();
@@ -73,13 +78,27 @@ public final class FaceTest {
         return text.append('(').append(types).append(')').toString();
     }
 
+    /** At most seven parameters, at most twenty fields beside the constants, and no static field that is not final. */
+    private static void sizes(Class<?> some) {
+        for (Method method : some.getDeclaredMethods()) {
+            Due.is("parameters of " + method, method.getParameterCount() <= 7 ? 1 : 0, 1);
+        }
+        int fields = 0;
+        for (Field field : some.getDeclaredFields()) {
+            boolean shared = Modifier.isStatic(field.getModifiers());
+            Due.is(field + " is final or no static one", !shared || Modifier.isFinal(field.getModifiers()) ? 1 : 0, 1);
+            fields += shared ? 0 : 1;
+        }
+        Due.is("fields of " + some.getName(), fields <= 20 ? 1 : 0, 1);
+    }
+
     /** No private method bears the name of a public one. */
-    private static void namesOfTheirOwn(Class<?> inside) {
-        for (Member member : inside.getDeclaredMethods()) {
+    private static void namesOfTheirOwn(Class<?> some) {
+        for (Member member : some.getDeclaredMethods()) {
             if (!Modifier.isPrivate(member.getModifiers())) {
                 continue;
             }
-            Due.is(inside.getName() + "." + member.getName() + " has a name of its own",
+            Due.is(some.getName() + "." + member.getName() + " has a name of its own",
                 METHODS.contains(" " + member.getName() + "(") ? 1 : 0, 0);
         }
     }
